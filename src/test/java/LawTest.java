@@ -244,6 +244,8 @@ public final class LawTest {
         DUE.is("beside a side", m.cell(5, 0, 4), 3);
         DUE.is("beside a side", m.cell(5, 11, 4), 3);
         DUE.is("beside all", m.cell(5, 5, 4), 4);
+        DUE.is("beside all", m.cell(10, 10, 4), 4);
+        DUE.is("beside all", m.cell(1, 1, 4), 4);
     }
 
     private static void refused() {

@@ -230,6 +230,15 @@ public final class PromisesTest {
         m.steps(1);
         DUE.is("7: no way round the side", m.cell(11, 4, 2), 6);
         m = new MistHands();
+        for (int cell = 9; cell < 12; cell++) {
+            m.ground(cell, 0, 9, 0);
+            m.ground(cell, 1, 20, 0);
+        }
+        m.ground(11, 0, 0, 0);
+        m.air(10, 0, 40, 0);
+        m.steps(1);
+        DUE.is("7: to the right side", m.cell(11, 0, 2), 10);
+        m = new MistHands();
         m.air(6, 6, 1, 0);
         DUE.is("7: half of 1 is 0", m.steps(1), 0);
         m.ground(6, 6, 0, 2);
@@ -319,6 +328,10 @@ public final class PromisesTest {
         Due.law(m, "m5000(1=1);y5000(d=99)");
         DUE.is("8: mist is 99 at most", m.cell(2, 3, 5), 139);
         DUE.is("8: yards are 999 at most", m.cell(2, 3, 6), 999);
+        Due.law(m, "m1(1=1)");
+        DUE.is("8: a top of 1", m.cell(0, 0, 5), 1);
+        DUE.is("8: the highest of them", m.sums(4), 41);
+        DUE.is("8: tops of 1", m.sums(3), 144);
         Due.law(m, "m0-5(1=1);y0-1(1=1)");
         DUE.is("8: no mist below 0", m.cell(2, 3, 5), -2);
         DUE.is("8: no yards below 0", m.cell(2, 3, 6), 0);
@@ -426,6 +439,12 @@ public final class PromisesTest {
             DUE.is("12: f", m.band(1, beyond), NONE);
         }
         DUE.is("12: nothing is done", m.cell(5, 5, 2), 100);
+        m = new MistHands();
+        DUE.is("12: f 1", m.band(1, 1), 0);
+        m.ground(0, 0, 7, 0);
+        Due.law(m, "c8(x=0&y=0&t=3)");
+        DUE.is("12: just n steps", m.band(3, 1), 0);
+        DUE.is("12: the fourth", m.band(4, 1), 8);
     }
 
     private static void promise13() {
@@ -489,6 +508,7 @@ public final class PromisesTest {
         // Trees on 41 send the 3 to 52: for 52 no other cell than 0 does better than nothing.
         DUE.is("14: nothing to keep away", path.dam(52, 2, 0), 0);
         DUE.is("14: nothing to keep away", path.dam(52, 2, 1), 0);
+        lastDam();
         m = new MistHands();
         DUE.is("14: the lowest of like ones but the told", m.dam(0, 20, 0), 1);
         DUE.is("14: no cold", m.dam(143, 20, 1), 0);
@@ -505,6 +525,24 @@ public final class PromisesTest {
             m.ground(cell % 12, cell / 12, 0, 2);
         }
         DUE.is("14: one that has trees counts, too", m.dam(5, 3, 0), 0);
+    }
+
+    private static void lastDam() {
+        MistHands m = new MistHands();
+        m.ground(10, 11, 10, 0);
+        m.air(10, 11, 40, 0);
+        m.ground(11, 11, 1, 0);
+        m.ground(10, 10, 2, 0);
+        m.ground(9, 11, 2, 0);
+        // 142 gives 10 to 143, and 143 then 3 to 131; with trees on 143 the cold goes to 130 and to 118.
+        DUE.is("14: the last cell", m.dam(131, 2, 0), 143);
+        DUE.is("14: cold", m.dam(131, 2, 1), 0);
+        m = new MistHands();
+        for (int cell = 0; cell < 144; cell++) {
+            m.air(cell % 12, cell / 12, 9999, 0);
+        }
+        DUE.is("14: all are full", m.dam(0, 1, 1), 9999);
+        DUE.is("14: all are full", m.dam(0, 1, 0), 1);
     }
 
     private static void promise15() {
@@ -576,6 +614,10 @@ public final class PromisesTest {
         m.road(0, 0, 1, 3, 5);
         DUE.is("16: 300 minutes", m.soonest(0, 1, 0, 0), 300);
         DUE.is("16: 301", m.soonest(0, 1, 1, 0), -2);
+        m.road(0, 9, 8, 1, 5);
+        m.road(1, 8, 9, 2, 5);
+        DUE.is("16: highest nodes", m.soonest(9, 8, 0, 0), 100);
+        DUE.is("16: highest nodes", m.soonest(8, 9, 0, 1), 100);
         DUE.is("16: from 10", m.soonest(10, 1, 0, 0), NONE);
         DUE.is("16: to 10", m.soonest(0, 10, 0, 0), NONE);
         DUE.is("16: minute 300", m.soonest(0, 1, 300, 0), NONE);
@@ -608,6 +650,16 @@ public final class PromisesTest {
         DUE.is("17: most", m.edge(1), 9);
         DUE.is("17: by how many", m.edge(2), 41);
         DUE.is("17: 3", m.edge(3), NONE);
+        m = new MistHands();
+        m.road(0, 4, 9, 10, 5);
+        m.road(1, 9, 8, 10, 6);
+        DUE.is("17: the lowest two", m.edge(0), 0);
+        DUE.is("17: the lowest two", m.edge(1), 1);
+        m = new MistHands();
+        m.road(18, 4, 9, 10, 5);
+        m.road(19, 3, 4, 10, 6);
+        DUE.is("17: the highest two", m.edge(0), 18);
+        DUE.is("17: the highest two", m.edge(1), 19);
         for (int beyond : BEYOND) {
             DUE.is("17: what", m.edge(beyond), NONE);
         }
@@ -740,6 +792,8 @@ public final class PromisesTest {
         DUE.is("22: without mist", m.odds(10, 22, 30, 0, 0), 0);
         DUE.is("22: without mist", m.odds(10, 22, 30, 0, 1), 1);
         DUE.is("22: without mist", m.odds(10, 22, 30, 0, 2), 0);
+        m.was(70, 70, 70, 1, 0);
+        DUE.is("22: a top of 1", m.odds(70, 70, 70, 0, 0), 1);
         DUE.is("22: two of three", m.odds(11, 21, 30, 1, 1), 3);
         DUE.is("22: two of three", m.odds(11, 21, 30, 1, 0), 2);
         for (int what = 0; what < 3; what++) {
@@ -793,6 +847,8 @@ public final class PromisesTest {
             DUE.is("24: above " + strength, m.lid(strength, 2, 2, 0), above[strength - 1]);
             DUE.is("24: below " + strength, m.lid(strength, 2, 2, 1), below[strength - 1]);
         }
+        DUE.is("24: least n and k", m.lid(1, 1, 1, 0), 1);
+        DUE.is("24: least n and k", m.lid(1, 1, 1, 1), 2);
         DUE.is("24: all pushes", m.lid(108, 12, 9, 0), 1);
         DUE.is("24: all pushes", m.lid(108, 12, 9, 1), 1000000000000L);
         DUE.is("24: never", m.lid(109, 12, 9, 0), 0);
@@ -834,7 +890,8 @@ public final class PromisesTest {
         DUE.is("26: X", m.count(5), 39022);
         DUE.is("26: the wind", m.count(100), 2);
         DUE.is("26: the wind is drawn ahead", m.cell(3, 3, 3), 2);
-        DUE.is("26: ran", m.draw(1) > 0, true);
+        // 28 give 7 on, and 10 give 3.
+        DUE.is("26: ran this time", m.draw(1), 10);
         DUE.is("26: X", m.count(5), 61087);
         DUE.is("26: the wind", m.count(101), 7);
         DUE.is("26: the next wind is not drawn", m.count(102), 0);
@@ -847,7 +904,10 @@ public final class PromisesTest {
         }
         DUE.is("26: refused changes nothing", m.count(5), x);
         m.draw(60);
-        m.draw(38);
+        m.draw(37);
+        m.draw(1);
+        DUE.is("26: the wind of step 99", m.count(199), m.count(5) % 10);
+        DUE.is("26: which is not 0", m.count(199) > 0, true);
         int water = m.cell(3, 3, 3);
         DUE.is("26: step 100", m.count(0), 100);
         int before = m.count(5);
