@@ -2,7 +2,7 @@ import java.util.Arrays;
 
 /**
  * Mist in a valley of twelve by twelve cells: cold that runs down, mist by a law that is a text,
- * roads by sight, and nights that were. DOC.md holds the promises; the numbers below point to them.
+ * roads by sight, and nights that were. What each call promises stands in the document, DOC.md.
  */
 public final class MistHands {
     /** There is none. */
