@@ -1,18 +1,35 @@
 /** What a test has asked and what was due; it tells what was wrong and ends the test. */
 final class Due {
     private final String name;
+    private String sentence = "";
     private int asked = 0;
+    private int askedAhead = 0;
     private int wrong = 0;
 
     Due(String name) {
         this.name = name;
     }
 
+    /** The document's own words, which all that is asked from here on stands for; SentencesTest looks them up. */
+    void sentence(String words) {
+        endSentence();
+        sentence = words;
+    }
+
+    private void endSentence() {
+        if (!sentence.isEmpty() && asked == askedAhead) {
+            wrong++;
+            System.out.println(name + ": nothing is asked for \"" + sentence + "\"");
+        }
+        askedAhead = asked;
+    }
+
     void is(String call, long got, long want) {
         asked++;
         if (got != want) {
             wrong++;
-            System.out.println(name + ": " + call + " answered " + got + ", due is " + want);
+            String where = sentence.isEmpty() ? "" : "\n    \"" + sentence + "\"";
+            System.out.println(name + ": " + call + " answered " + got + ", due is " + want + where);
         }
     }
 
@@ -37,7 +54,15 @@ final class Due {
         return hands.law(text.length());
     }
 
+    /** A new object with this law. */
+    static MistHands under(String text) {
+        MistHands hands = new MistHands();
+        law(hands, text);
+        return hands;
+    }
+
     void end() {
+        endSentence();
         System.out.println(name + ": " + asked + " answers, " + wrong + " of them wrong");
         if (wrong != 0 || asked == 0) {
             System.exit(1);
