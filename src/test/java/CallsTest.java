@@ -303,8 +303,12 @@ public final class CallsTest {
         DUE.is("water from first to last", m.sums(1), 10000);
         DUE.is("no mist, though there is ground", m.sums(4), 0);
         Due.law(m, "m99(h=99);m1(x=0&y=0);m0(1=1)");
-        DUE.is("cells with mist", m.sums(3), 2);
         DUE.is("the highest top of all", m.sums(4), 198);
+        DUE.is("cells with mist", m.sums(3), 2);
+        Due.law(m, "m1(x=0&y=0)");
+        DUE.is("cells with mist, as it is now", m.sums(3), 1);
+        Due.law(m, "m2(x<2&y=0)");
+        DUE.is("the highest top, as it is now", m.sums(4), 2);
         m.steps(2);
         DUE.is("ran so far", m.sums(2), 1 + 1 + 1 + 1);
     }

@@ -41,11 +41,35 @@ public final class LawTest {
         DUE.is("length 201", m.law(201), MistHands.NONE);
         DUE.is("its first 200", m.law(200), -1000 - 200);
         DUE.is("the one before", m.cell(0, 0, 4), 7);
+        longest();
         String good = "m1+[h](x<11&!(1=2));c1(1=1)";
         for (int at = 0; at <= good.length(); at++) {
             fault(good.substring(0, at) + " " + good.substring(at), 1, at);
             fault(good.substring(0, at) + "\t" + good.substring(at), 1, at);
         }
+    }
+
+    /** As many as 200 bytes hold of each: parts, pieces, terms, factors, what is open. */
+    private static void longest() {
+        holds("1=2|".repeat(48) + "1=1", true);
+        holds("1=2|".repeat(48) + "1=2", false);
+        holds("1=1|".repeat(48) + "1=2", true);
+        holds("1=1&".repeat(48) + "1=1", true);
+        holds("1=1&".repeat(48) + "1=2", false);
+        holds("1=2&".repeat(48) + "1=1", false);
+        holds("1=2&1=1|".repeat(24) + "1=1", true);
+        holds("1=1&1=2|".repeat(24) + "1=2", false);
+        holds("1+".repeat(96) + "1=97", true);
+        holds("1*".repeat(96) + "7=7", true);
+        holds("7" + "/1".repeat(96) + "=7", true);
+        holds("96=" + "1+".repeat(95) + "1", true);
+        holds("!!!!!1=1&".repeat(20) + "1=2", false);
+        holds("!!!!!1=2&".repeat(20) + "1=1", true);
+        holds("1+2*[1+2*[1+2*[1+2*[1+2*[1+2]]]]]<2*3*[1+2*[1+2*[1+2*[1+2*[1+2]]]]]", true);
+        holds("(((((1=2|1=1)&1=1|1=2)&1=1|1=2)&1=1|1=2)&1=1|1=2)&1=1", true);
+        holds("1=2|1=1&(1=2|1=1&(1=2|1=1&(1=2|1=1&(1=2|1=1&(1=2|1=1)))))", true);
+        is("1+2*[1+2*[1+2*[1+2*[1+2*[1+2*[1+2]]]]]]", 255);
+        is("[[[[[[1+2]*2+1]*2+1]*2+1]*2+1]*2+1]*2+1", 255);
     }
 
     private static String longText(int length) {
@@ -105,6 +129,41 @@ public final class LawTest {
         fault("c1(1=1);".repeat(14) + "c123456", 4, 112);
         fault("c1(1=1);".repeat(13) + "c123456", 2, 110);
         fault("c1(1=1);".repeat(13) + "c1(1=1)z", 1, 111);
+        inEachPlace();
+    }
+
+    /** Where a factor or a piece can stand (the @), and how many ( [ ! are open there. */
+    private static void inEachPlace() {
+        String[] factors = {"0c@(1=1)", "0c1+@(1=1)", "0c1-@(1=1)", "0c1*@(1=1)", "0c1/@(1=1)", "0c1%@(1=1)",
+            "1c[@](1=1)", "1c1+[1-@](1=1)", "1c1(@=1)", "1c1(1=@)", "1c1(1<@)", "1c1(1>@)", "1c1(1+@=1)",
+            "1c1(1=1*@)", "1c1(1=1&@=1)", "1c1(1=1&1=@)", "1c1(1=1|@=1)", "1c1(1=1|1=@)", "2c1(!@=1)", "2c1((@=1))",
+            "2c1((1=@))", "2c1([@]=1)", "2c1(1=[@])", "3c1(!(1=1|@=1))", "3c1(!!1=@)", "0c1(1=1);m@(1=1)",
+            "1c1(1=1);m1(@=1)", "1c1(!1=1&@=1)", "1c1((1=1)|@=1)", "1c1(!(1=1)&1=@)"};
+        for (String place : factors) {
+            String ahead = place.substring(1, place.indexOf('@'));
+            String behind = place.substring(place.indexOf('@') + 1);
+            int free = 6 - (place.charAt(0) - '0');
+            int clauses = place.indexOf(';') < 0 ? 1 : 2;
+            good(ahead + "12345" + behind, clauses);
+            fault(ahead + "123456" + behind, 2, ahead.length() + 5);
+            good(ahead + "[".repeat(free) + "1" + "]".repeat(free) + behind, clauses);
+            fault(ahead + "[".repeat(free + 1) + "1" + "]".repeat(free + 1) + behind, 5, ahead.length() + free);
+            fault(ahead + ")" + behind, 1, ahead.length());
+            fault(ahead, 1, ahead.length());
+        }
+        String[] pieces = {"1c1(@)", "1c1(1=1&@)", "1c1(1=1|@)", "2c1(!@)", "2c1((@))", "2c1((1=1|@))", "3c1(!(1=1&@))",
+            "1c1(!1=1&@)", "1c1(!1=1|@)", "1c1((1=1)&@)", "1c1(1=1);m1(@)", "3c1(!!@)"};
+        for (String place : pieces) {
+            String ahead = place.substring(1, place.indexOf('@'));
+            String behind = place.substring(place.indexOf('@') + 1);
+            int free = 6 - (place.charAt(0) - '0');
+            int clauses = place.indexOf(';') < 0 ? 1 : 2;
+            good(ahead + "(".repeat(free) + "1=1" + ")".repeat(free) + behind, clauses);
+            fault(ahead + "(".repeat(free + 1) + "1=1" + ")".repeat(free + 1) + behind, 5, ahead.length() + free);
+            good(ahead + "!".repeat(free) + "1=1" + behind, clauses);
+            fault(ahead + "!".repeat(free + 1) + "1=1" + behind, 5, ahead.length() + free);
+            fault(ahead + behind, 1, ahead.length());
+        }
     }
 
     private static void misplaced() {
@@ -311,6 +370,13 @@ public final class LawTest {
         is("100%30/7", 1);
         is("100-2*3-4", 90);
         is("100-20/3*3", 82);
+        is("7/1", 7);
+        is("7%1", 0);
+        is("1*7", 7);
+        is("7/7", 1);
+        is("6/7", 0);
+        is("6%7", 6);
+        is("0-7/[0-1]", 7);
         fault("c+1(1=1)", 1, 1);
         fault("c-1(1=1)", 1, 1);
         fault("c1*-1(1=1)", 1, 3);
@@ -466,17 +532,12 @@ public final class LawTest {
             m.ground(cell % 12, cell / 12, 0, 2);
         }
         Due.law(m, "mn(1=1)");
-        DUE.is("beside a corner", m.cell(0, 0, 4), 2);
-        DUE.is("beside a corner", m.cell(11, 0, 4), 2);
-        DUE.is("beside a corner", m.cell(0, 11, 4), 2);
-        DUE.is("beside a corner", m.cell(11, 11, 4), 2);
-        DUE.is("beside a side", m.cell(0, 5, 4), 3);
-        DUE.is("beside a side", m.cell(11, 5, 4), 3);
-        DUE.is("beside a side", m.cell(5, 0, 4), 3);
-        DUE.is("beside a side", m.cell(5, 11, 4), 3);
-        DUE.is("beside all", m.cell(5, 5, 4), 4);
-        DUE.is("beside all", m.cell(10, 10, 4), 4);
-        DUE.is("beside all", m.cell(1, 1, 4), 4);
+        for (int cell = 0; cell < 144; cell++) {
+            int x = cell % 12;
+            int y = cell / 12;
+            int sides = (x == 0 || x == 11 ? 1 : 2) + (y == 0 || y == 11 ? 1 : 2);
+            DUE.is("trees on all sides of " + x + " " + y, m.cell(x, y, 4), sides);
+        }
         int[][] sides = {{5, 4}, {4, 5}, {6, 5}, {5, 6}};
         for (int gone = 0; gone < 4; gone++) {
             m.ground(sides[gone][0], sides[gone][1], 0, 3);

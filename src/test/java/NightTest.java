@@ -101,6 +101,11 @@ public final class NightTest {
         DUE.is("of one below", m.night(3, 1), 2);
         m = Due.under("m1(x=11&y=11&t=1)");
         DUE.is("least", m.night(60, 0), 1);
+        m = Due.under("c5(1=1);w3(1=1);s1(1=1);mc-w(1=1)");
+        m.ground(3, 3, 8, 0);
+        // Each step 5 more of cold, and 2 of water: 3 hands more.
+        DUE.is("by cold and water as they come", m.night(4, 1), 4);
+        DUE.is("by cold and water as they come", m.sun(9, 9, 6, 4), 2);
         m = Due.under("m99(x=11&y=11)");
         m.ground(11, 11, 99, 0);
         DUE.is("most", m.night(60, 0), 198);
@@ -249,6 +254,12 @@ public final class NightTest {
         DUE.is("it is still a river", m.cell(0, 0, 1), 1);
         m = Due.under("cn(x=11&y=10)");
         DUE.is("the last cell gains", m.works(11, 11, 1, 0) > 0, true);
+        // Trees that bring cold themselves: 40, of which 10 go up.
+        m = Due.under("c40(k=2)");
+        int[] own = {2, 0, 65, 30};
+        for (int what = 0; what < 4; what++) {
+            DUE.is("the cell itself counts, what " + what, m.works(5, 5, 1, what), own[what]);
+        }
     }
 
     private static void dam() {
@@ -297,7 +308,15 @@ public final class NightTest {
         m = Due.under("c20+8*n(x=5&y=5)");
         DUE.is("it is no less: told even so", m.dam(65, 1, 0), 0);
         DUE.is("it is no less: told even so", m.dam(65, 1, 1), 15);
-        // Each trees, wherever, make it more: the least of them.
+        m = Due.under("c1(n=0&x=5&y=5)");
+        DUE.is("1 is not least if another one makes it 0", m.dam(65, 1, 0), 53);
+        DUE.is("0", m.dam(65, 1, 1), 0);
+        m = new MistHands();
+        for (int cell = 0; cell < 144; cell++) {
+            m.air(cell % 12, cell / 12, 9999, 0);
+        }
+        DUE.is("all are full: told even so", m.dam(0, 1, 0), 1);
+        DUE.is("all are full: told even so", m.dam(0, 1, 1), 9999);
         m = Due.under("c9(x=0&y=0)");
         DUE.is("nothing helps", m.dam(0, 1, 0), 1);
         DUE.is("nothing helps", m.dam(0, 1, 1), 6);
@@ -370,6 +389,13 @@ public final class NightTest {
         DUE.is("none goes in at 300", way("y100(t>29)", 1, 1).soonest(0, 1, 0, 0), -2);
         DUE.is("none goes on at 300", way("y100(1=1)", 10, 1).soonest(0, 2, 290, 0), -2);
         DUE.is("the second at 299", way("y100(1=1)", 9, 1).soonest(0, 2, 290, 0), 300);
+        // Behind s steps the cold is 50 s, the mist s hands deep, the yards 100 less 10 s.
+        MistHands mist = way("c50(1=1);mc/50(1=1);y100-d*10(1=1)", 1, 1);
+        int[] minutes = {1, 2, 2, 2, 2, 2, 3, 4, 5, 10};
+        for (int step = 0; step < 10; step++) {
+            DUE.is("by the mist of step " + step, mist.soonest(0, 1, 10 * step, 1), 10 * step + minutes[step]);
+        }
+        DUE.is("by the mist of step 10", mist.soonest(0, 1, 100, 0), -2);
         // The yards of when one goes in count all the way.
         DUE.is("as one goes in", way("y10(t=0);y999(1=1)", 5, 1).soonest(0, 1, 9, 1), 59);
         DUE.is("as one goes in", way("y999(t=0)", 99, 1).soonest(0, 1, 9, 1), 19);

@@ -436,9 +436,18 @@ public final class PastTest {
         m.steps(5);
         DUE.is("undone", m.undo(), true);
         DUE.is("as kept last", m.count(0), 5);
-        m.air(1, 1, 5, 5);
+        m.air(1, 1, 5, 6);
+        m.ground(1, 1, 7, 2);
+        m.wind(3, 8);
+        m.draw(4);
         DUE.is("undone again", m.undo(), true);
-        DUE.is("what is kept is not changed by what comes later", m.cell(1, 1, 2), 0);
+        for (int what = 0; what < 4; what++) {
+            DUE.is("what is kept is not changed by what comes later", m.cell(1, 1, what), 0);
+        }
+        DUE.is("what is kept is not changed by what comes later", m.count(103), 0);
+        DUE.is("what is kept is not changed by what comes later", m.count(105), 0);
+        DUE.is("what is kept is not changed by what comes later", m.count(5), 1);
+        DUE.is("what is kept is not changed by what comes later", m.sums(2), 0);
     }
 
     private static void others() {

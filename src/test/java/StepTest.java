@@ -10,6 +10,7 @@ public final class StepTest {
         air();
         beside();
         besideNotRound();
+        besideAll();
         theStep();
         winds();
         level();
@@ -158,6 +159,22 @@ public final class StepTest {
         for (int[] two : close) {
             String name = two[0] + " " + two[1] + " is beside " + two[2] + " " + two[3];
             DUE.is(name, pit(two[0], two[1], two[2], two[3]).steps(1), 10);
+        }
+    }
+
+    /** Of each two cells whether they are beside each other: by trees, and by cold that runs. */
+    private static void besideAll() {
+        for (int from = 0; from < 144; from++) {
+            MistHands trees = Due.under("mn(1=1)");
+            trees.ground(from % 12, from / 12, 0, 2);
+            for (int to = 0; to < 144; to++) {
+                int apart = Math.abs(from % 12 - to % 12) + Math.abs(from / 12 - to / 12);
+                DUE.is("trees on " + from + " for " + to, trees.cell(to % 12, to / 12, 4), apart == 1 ? 1 : 0);
+                if (apart != 0) {
+                    MistHands m = pit(to % 12, to / 12, from % 12, from / 12);
+                    DUE.is("from " + from + " to " + to, m.steps(1), apart == 1 ? 10 : 0);
+                }
+            }
         }
     }
 
