@@ -1,6 +1,9 @@
+import com.sun.source.tree.ArrayTypeTree;
 import com.sun.source.tree.AssertTree;
+import com.sun.source.tree.BinaryTree;
 import com.sun.source.tree.ClassTree;
 import com.sun.source.tree.CompilationUnitTree;
+import com.sun.source.tree.ForLoopTree;
 import com.sun.source.tree.IdentifierTree;
 import com.sun.source.tree.ImportTree;
 import com.sun.source.tree.LambdaExpressionTree;
@@ -15,7 +18,9 @@ import com.sun.source.tree.SynchronizedTree;
 import com.sun.source.tree.ThrowTree;
 import com.sun.source.tree.Tree;
 import com.sun.source.tree.TryTree;
+import com.sun.source.tree.TypeCastTree;
 import com.sun.source.tree.VariableTree;
+import com.sun.source.tree.WhileLoopTree;
 import com.sun.source.util.JavacTask;
 import com.sun.source.util.SourcePositions;
 import com.sun.source.util.TreeScanner;
@@ -92,6 +97,12 @@ public final class FormTest {
         DUE.is("NONE", MistHands.NONE, -1);
         for (Class<?> inner : type.getDeclaredClasses()) {
             DUE.is(inner + " is static", Modifier.isStatic(inner.getModifiers()), true);
+            DUE.is(inner + " is not public", Modifier.isPublic(inner.getModifiers()), false);
+            for (Method method : inner.getDeclaredMethods()) {
+                DUE.is(method + " bears a public name", names.contains(method.getName()), false);
+                DUE.is(method + " bears a name of each object",
+                    Set.of("equals", "hashCode", "toString", "finalize", "clone").contains(method.getName()), false);
+            }
         }
     }
 
@@ -135,6 +146,7 @@ public final class FormTest {
 
         @Override public Void visitClass(ClassTree tree, Void none) {
             classes++;
+            DUE.is(tree.getSimpleName() + " stands in a method", method.isEmpty(), true);
             int fields = 0;
             for (Tree member : tree.getMembers()) {
                 if (member instanceof VariableTree field) {
@@ -172,7 +184,38 @@ public final class FormTest {
             return super.visitMethodInvocation(tree, none);
         }
 
+        @Override public Void visitWhileLoop(WhileLoopTree tree, Void none) {
+            DUE.is("while " + tree.getCondition(), tree.getCondition().toString().contains("true"), false);
+            return super.visitWhileLoop(tree, none);
+        }
+
+        @Override public Void visitForLoop(ForLoopTree tree, Void none) {
+            DUE.is("for without an end in " + method, tree.getCondition() == null, false);
+            return super.visitForLoop(tree, none);
+        }
+
+        @Override public Void visitBinary(BinaryTree tree, Void none) {
+            boolean joins = tree.getKind() == Tree.Kind.PLUS
+                && (tree.getLeftOperand().getKind() == Tree.Kind.STRING_LITERAL
+                || tree.getRightOperand().getKind() == Tree.Kind.STRING_LITERAL);
+            DUE.is("texts joined by + in " + method, joins, false);
+            return super.visitBinary(tree, none);
+        }
+
+        @Override public Void visitTypeCast(TypeCastTree tree, Void none) {
+            DUE.is("a cast to " + tree.getType() + " in " + method,
+                tree.getType().getKind() == Tree.Kind.PRIMITIVE_TYPE, true);
+            return super.visitTypeCast(tree, none);
+        }
+
+        @Override public Void visitArrayType(ArrayTypeTree tree, Void none) {
+            DUE.is("an array of " + tree.getType() + " in " + method,
+                tree.getType().getKind() == Tree.Kind.PRIMITIVE_TYPE, true);
+            return super.visitArrayType(tree, none);
+        }
+
         @Override public Void visitNewClass(NewClassTree tree, Void none) {
+            DUE.is("a class without a name in " + method, tree.getClassBody() == null, true);
             DUE.is("new " + tree.getIdentifier() + " in " + method, method.equals("<init>"), true);
             return super.visitNewClass(tree, none);
         }
